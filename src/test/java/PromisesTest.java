@@ -507,6 +507,12 @@ public final class PromisesTest {
     due("16 least together, not each by itself", y.carry(3, 12), 10 + 280);
     y.set(0, 10);
     due("16 with FREE at 0: 9 from 0, 12 from 10", y.carry(3, 12), 90 + 20);
+    DownAsUp eight = townOf("h1@1*,h1@2*,h1@3*,h1@4*,h1@5*,h1@6*,h1@7*,h1@8*");
+    due("16 all eight go", eight.carry(255, 0), 0);
+    eight.stand(0);
+    due("16 all eight come, not enough", eight.carry(0, 255), NONE);
+    eight.set(0, 8);
+    due("16 all eight come", eight.carry(0, 255), 36);
     DownAsUp same = townOf("h9@50*,h9@50");
     due("16 in place", same.carry(1, 2), 0);
     DownAsUp rests = townOf("h9@50*,h1/0*,h9@60");
@@ -588,21 +594,27 @@ public final class PromisesTest {
     shares("18 both", z, new int[][] {{1, 2}, {1, 2}, {0, 1}, {0, 1}});
     DownAsUp one = townOf("h10o2*");
     shares("18 one alone", one, new int[][] {{0, 1}, {0, 1}, {1, 1}, {0, 1}});
-    // A part of owner 2 or 3 going for a while and coming again pays for the work of owner 0: either is enough.
-    DownAsUp lent = townOf("h10o0,c5o0*,h15o2*,h15o3*,c15o1*");
-    lent.want(30 - 2 + 1 - 16);
-    due("18 the sum of all is whole or nothing", sumOf(lent), lent.can(-1) >= 0 ? 24 : 0);
-    // Owner 0 builds by 10 free yards that either owner 1 or owner 2 must first give by going: (0 with 1 or with 2).
-    DownAsUp either = townOf("h10o0,b11o1*,b11o2*,h2o0*");
-    either.set(0, 0);
-    either.want(1 + 2);
-    shares("18 owner 2 alone gives", either, new int[][] {{1, 2}, {0, 1}, {1, 2}, {0, 1}});
+    DownAsUp two = townOf("h10o0,b11o1*,b11o2*,h2o0*");
+    two.want(1 + 2);
+    shares("18 his new house and the barn that is not wanted", two, new int[][] {{1, 2}, {0, 1}, {1, 2}, {0, 1}});
+    // Somebody is sheltered by the old house or by the new one of owner 0, so that it takes ten yards in between: those of
+    // houses of others, which go for a while and come again.
+    DownAsUp each = lent(10, 10, 10);
+    due("18 by way of another's house", each.can(-1), 2);
+    shares("18 each of three can lend", each, new int[][] {{3, 4}, {1, 12}, {1, 12}, {1, 12}});
+    shares("18 one can lend, or two others together", lent(10, 5, 5), new int[][] {{7, 12}, {1, 4}, {1, 12}, {1, 12}});
+    shares("18 one with either of two others", lent(7, 3, 3), new int[][] {{5, 12}, {5, 12}, {1, 12}, {1, 12}});
+    shares("18 two of three", lent(5, 5, 5), new int[][] {{1, 2}, {1, 6}, {1, 6}, {1, 6}});
+    shares("18 either of two", lent(10, 10, 1), new int[][] {{2, 3}, {1, 6}, {1, 6}, {0, 1}});
+    shares("18 all three", lent(4, 4, 2), new int[][] {{1, 4}, {1, 4}, {1, 4}, {1, 4}});
+    shares("18 not even all", lent(4, 4, 1), new int[][] {{0, 1}, {0, 1}, {0, 1}, {0, 1}});
   }
 
-  private static int sumOf(DownAsUp x) {
-    int sum = 0;
-    for (int o = 0; o < 4; o++) sum += x.worth(o, 0) * (24 / x.worth(o, 1));
-    return sum;
+  private static DownAsUp lent(int yardsOf1, int yardsOf2, int yardsOf3) {
+    DownAsUp x = townOf("h10o0*,h10o0,h" + yardsOf1 + "o1*,h" + yardsOf2 + "o2*,h" + yardsOf3 + "o3*");
+    x.person(3);
+    x.want(30);
+    return x;
   }
 
   private static void shares(String what, DownAsUp x, int[][] due) {
