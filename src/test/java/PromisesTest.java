@@ -1,19 +1,5 @@
 /** Each promise of the document, by hand: ordinary inputs, the edges that it names, wrong inputs. */
-public final class PromisesTest {
-  private static final int BAD = -1, NOT = -2, FULL = -3, NONE = -4, NULL = -11, CAST = -12, INDEX = -13, SIZE = -14;
-  private static final int MAX = Integer.MAX_VALUE, MIN = Integer.MIN_VALUE;
-
-  private static int asked = 0;
-  private static int wrong = 0;
-
-  private static void due(String what, int got, int want) {
-    asked++;
-    if (got != want) {
-      wrong++;
-      System.out.println(what + " answered " + got + ", due is " + want);
-    }
-  }
-
+public final class PromisesTest extends Kit {
   public static void main(String[] args) {
     newObject();
     part();
@@ -45,33 +31,7 @@ public final class PromisesTest {
     item();
     film();
     copy();
-    System.out.println(asked + " answers, " + wrong + " not as due");
-    if (wrong != 0) System.exit(1);
-  }
-
-  /** Types a text, eight bytes at a time: what the last call answered. */
-  private static int type(DownAsUp x, String text) {
-    int last = 0;
-    for (int at = 0; at < text.length(); at += 8) {
-      int n = Math.min(8, text.length() - at);
-      long w = 0;
-      for (int i = 0; i < n; i++) w = w << 8 | text.charAt(at + i);
-      last = x.type(w, n);
-    }
-    return last;
-  }
-
-  private static DownAsUp townOf(String text) {
-    DownAsUp x = new DownAsUp();
-    type(x, text);
-    if (x.town() < 0) due("a town of the tests, " + text, 0, 1);
-    return x;
-  }
-
-  private static int townAnswer(String text) {
-    DownAsUp x = new DownAsUp();
-    type(x, text);
-    return x.town();
+    end();
   }
 
   // Promise 1
