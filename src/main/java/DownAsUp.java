@@ -1064,7 +1064,7 @@ public final class DownAsUp {
                 siteVia[s] = h;
                 shortened = true;
             }
-            if (brought[h * SITES + s] > 0 && siteWay[s] < FAR && siteWay[s] - far(h, s) < heapWay[h]) {
+            if (brought[h * SITES + s] > 0 && siteVia[s] >= 0 && siteWay[s] - far(h, s) < heapWay[h]) {
                 heapWay[h] = siteWay[s] - far(h, s);
                 heapVia[h] = s;
                 shortened = true;
@@ -1075,7 +1075,7 @@ public final class DownAsUp {
         private int nearestSite() {
             int best = -1;
             for (int s = 0; s < sites; s++) {
-                if (siteLack[s] > 0 && siteWay[s] < FAR && (best < 0 || siteWay[s] < siteWay[best])) {
+                if (siteLack[s] > 0 && siteVia[s] >= 0 && (best < 0 || siteWay[s] < siteWay[best])) {
                     best = s;
                 }
             }
